@@ -25,12 +25,16 @@ public final class ContentsFinder {
     private boolean shiftsAreOld;
 
     public ContentsFinder() {
-        settings = new Settings();
-        pages = new Pages();
-        lines = new Lines();
-        tree = new Tree(lines, settings);
-        listing = new Listing(lines, pages, tree, settings);
-        shifts = new Shifts(pages, settings);
+        Settings newSettings = new Settings();
+        Pages newPages = new Pages();
+        Lines newLines = new Lines();
+        Tree newTree = new Tree(newLines, newSettings);
+        settings = newSettings;
+        pages = newPages;
+        lines = newLines;
+        tree = newTree;
+        listing = new Listing(newLines, newPages, newTree, newSettings);
+        shifts = new Shifts(newPages, newSettings);
         treeIsOld = true;
         listingIsOld = true;
         shiftsAreOld = true;

@@ -23,6 +23,7 @@ public final class PromisesTest {
         of();
         ofParts();
         running();
+        runningIsNoHead();
         treeTies();
         treeRules();
         counter();
@@ -469,6 +470,23 @@ public final class PromisesTest {
         due("still another size", x.of(6, 2), 0);
     }
 
+    private static void runningIsNoHead() {
+        promise = "10 of, running ones are no heads";
+        ContentsFinder x = bookOf(3);
+        x.line(0, 9, 9, false, 7, 0, 0);
+        plain(x, 0, 9, 4, 0);
+        x.line(1, 9, 9, false, 7, 0, 0);
+        plain(x, 2, 9, 4, 0);
+        levels(x, 1, 2, 1, 2);
+        due("cost", x.count(4), 4);
+        x.want(0, 2);
+        levels(x, 0, 1, 0, 2);
+        due("running ones cost nothing", x.count(4), 10 + 1 + 0 + 1);
+        x.want(1, 9);
+        x.price(0, 50);
+        due("a level 2 needs a head, not a running one", x.of(1, 3), 1);
+    }
+
     private static void treeTies() {
         promise = "10 of, ties of the tree";
         ContentsFinder x = bookOf(5);
@@ -621,6 +639,12 @@ public final class PromisesTest {
             due("partner(" + odd + ")", x.partner(odd), -1);
         }
         due("partner(3)", x.partner(3), -1);
+        x.right(2, 0, 1);
+        due("count(3), a head less", x.count(3), 2);
+        due("partner(0), held against the new tree", x.partner(0), -1);
+        x.drop();
+        due("partner(1), its line dropped", x.partner(1), -1);
+        due("partner(2), free now", x.partner(2), 0);
     }
 
     private static void partnerTies() {
