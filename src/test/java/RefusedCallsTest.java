@@ -50,20 +50,21 @@ public final class RefusedCallsTest {
         x.line(3, 2, 3, false, 2 << 24, 5, 0);
         x.line(4, 4, 3, false, 0, 4, 10201);
         x.line(5, 9, 8, true, 0, 0, 0);
+        // each entry fits its partner in all, so that whatever changes in one of them costs more
         x.entry(1, 7, 1 << 24, 0);
-        x.entry(3, 31, 0, 5);
-        x.entry(1, 0, 0, 0);
+        x.entry(3, 31, 0, 4);
+        x.entry(1, 32, 0, 0);
         return x;
     }
 
     private static Asked fullBook() {
         Asked x = Asked.withPages(60);
         for (int k = 0; k < 20; k++) {
-            x.read(3 * k, 3 * k + 1 + k / 8);
-            x.line(2 * k, k % 4 == 0 ? 9 : 7, k % 4 == 0 ? 9 : 5, false, k + 1 << 24, k, 0);
+            x.read(2 * k, 2 * k + 1 + k / 8);
+            x.line(2 * k, k % 4 == 0 ? 9 : 8, k % 4 == 0 ? 9 : 5, false, k + 1 << 24, k, 0);
         }
-        for (int k = 0; k < 12; k++) {
-            x.entry(1 + k % 2, k, 2 * k + 1 << 24, 2 * k);
+        for (int k = 8; k < 20; k++) {
+            x.entry(k % 4 == 0 ? 1 : 2, 2 * k + 1 + k / 8, k + 1 << 24, k);
         }
         return x;
     }

@@ -305,6 +305,13 @@ public final class ShiftBoundsTest {
 
     private static void fullBook() {
         S.by("Term 1", "PAGES 0 .. n - 1 (n .. 60): SHIFTS of all of them");
+        Asked all = Asked.withPages(60);
+        for (int page = 0; page < 60; page++) {
+            all.read(page, page + 940);
+        }
+        counts("all in one", all, 6, 1, 0);
+        S.due("shift(59)", all.shift(59), 940);
+        S.due("span(59)", all.span(59), 0);
         Asked x = Asked.withPages(60);
         for (int page = 0; page < 60; page++) {
             x.read(page, page + 1 + page / 20 * 5);
@@ -373,7 +380,9 @@ public final class ShiftBoundsTest {
         S.by("Promise 17", "NONE: no such PAGE.");
         wrongs("two", x, 0, 0, 0, 0, 0, NONE, NONE);
         S.due("wrong(-1)", x.wrong(-1), NONE);
+        counts("two", x, 12, 2, 0);
         x.book(3);
+        counts("of three pages", x, 6, 1, 0);
         spans("of three pages", x, 0, 0, 0, NONE, NONE);
         shifts("of three pages", x, 0, 0, 0, THROWN, THROWN);
         wrongs("of three pages", x, 0, 0, 0, NONE, NONE);

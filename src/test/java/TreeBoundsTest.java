@@ -309,6 +309,21 @@ public final class TreeBoundsTest {
         levels("one page too few", x, 1, 1, 1);
         S.dueRow("counter", k -> x.counter(k, 1), 1, 2, 3);
         S.due("cost", x.count(4), 0);
+        S.by("Term 2", "RUNNING ones have 0; others 0 (running text), or 1, 2, 3 (a HEAD)");
+        Asked y = dearText();
+        y.line(0, 9, 9, false, 7, 7, 1);
+        y.own(0, 13, 101);
+        y.line(1, 9, 9, false, 7, 7, 0);
+        levels("a head lets another be one", y, 1, 2, 1);
+        S.due("cost", y.count(4), 1);
+        y.want(0, 2);
+        levels("a running one does not, though it would cost less", y, 0, 0, 0);
+        S.due("cost", y.count(4), 13 * 50);
+        y.right(1, 9, 0);
+        levels("a line between running ones", y, 0, 1, 0);
+        S.dueRow("counter", k -> y.counter(k, 1), 0, 1, 1);
+        S.due("head above", y.of(1, 7), NONE);
+        S.due("last page, no running one ends it", y.of(1, 5), 59);
     }
 
     private static void costOfText() {
@@ -541,6 +556,12 @@ public final class TreeBoundsTest {
         }
         levels("the heads", x, 0, 1, 0, 2, 3, 3, 2, 3, 1, 2, 0);
         S.dueRow("head above", k -> x.of(k, 7), NONE, NONE, NONE, 1, 3, 3, 1, 6, NONE, 8, NONE);
+        Asked y = Asked.withPages(1);
+        y.own(0, 18, 1);
+        y.own(0, 13, 101);
+        y.own(0, 8, 10101);
+        y.own(0, 13, 102);
+        S.dueRow("head above, the first LINE", k -> y.of(k, 7), NONE, 0, 1, 0);
     }
 
     private static void fullBook() {
