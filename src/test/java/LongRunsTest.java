@@ -1,4 +1,5 @@
 import java.util.ArrayList;
+import java.util.Arrays;
 import java.util.HashMap;
 import java.util.List;
 import java.util.Map;
@@ -21,6 +22,8 @@ public final class LongRunsTest {
     private final Model m = new Model();
     private final boolean growing;
     private final int oddOneIn;
+    // where a book that is numbered as books are has come to
+    private final int[] outline = new int[4];
 
     private LongRunsTest(int seed) {
         this.seed = seed;
@@ -45,6 +48,7 @@ public final class LongRunsTest {
             if (call == 1 || random.nextInt(growing ? 400 : 60) == 0) {
                 int n = odd(random.nextInt(3) == 0 ? 60 : 1 + random.nextInt(30));
                 due(call, "book " + n, x.book(n) ? 1 : 0, m.book(n) ? 1 : 0);
+                Arrays.fill(outline, 0);
             } else if (kind < 10) {
                 mutate(call, kind);
             } else {
@@ -76,7 +80,26 @@ public final class LongRunsTest {
         return below(3) == 0 ? 0 : below(50) == 0 ? four * 30 : four;
     }
 
+    /** The numbers of the next line: in every second run mostly the next ones of an outline. */
     private int numbers() {
+        return seed / 2 % 2 == 0 || below(4) == 0 ? anyNumbers() : odd(nextOfOutline());
+    }
+
+    private int nextOfOutline() {
+        int level = 1 + below(3);
+        while (level > 1 && outline[level - 1] == 0) {
+            level--;
+        }
+        outline[level] = Math.min(12, outline[level] + 1 + (below(6) == 0 ? below(8) : 0));
+        int numbers = 0;
+        for (int k = 1; k <= 3; k++) {
+            outline[k] = k <= level ? outline[k] : 0;
+            numbers = k <= level ? 100 * numbers + outline[k] : numbers;
+        }
+        return numbers;
+    }
+
+    private int anyNumbers() {
         int parts = below(5) - 1;
         int numbers = 0;
         for (int k = 0; k < parts; k++) {
@@ -147,8 +170,9 @@ public final class LongRunsTest {
             due(call, "partner " + entry, x.partner(entry), m.partner(entry));
         } else if (kind == 18) {
             due(call, "shift " + page, shiftOfFinder(page), m.shift(page));
-        } else {
+        } else if (below(2) == 0) {
             due(call, "span " + page, x.span(page), m.span(page));
+        } else {
             due(call, "wrong " + page, x.wrong(page), m.wrong(page));
         }
     }
